@@ -32,6 +32,8 @@ public final class DiffBench {
     private static final int TOO_LONG = 3;
 
     private static final int NEWLINE = 10;
+    private static final char NO_SIGN = 0;
+    private static final char NO_LETTER = 0;
     private static final String MARK = "\\ No newline at end of file\n";
 
     private final Text[] texts = new Text[TEXTS];
@@ -424,7 +426,8 @@ public final class DiffBench {
         boolean isAlike(int line, Text other, int otherLine) {
             return line >= 0 && line < lineCount && otherLine >= 0 && otherLine < other.lineCount
                 && sum[line] == other.sum[otherLine]
-                && hasLine(line, other.bytes, other.startOf(otherLine), other.startOf(otherLine + 1));
+                && bytes.isAlike(startOf(line), startOf(line + 1),
+                    other.bytes, other.startOf(otherLine), other.startOf(otherLine + 1));
         }
 
         private static int countLines(Bytes source) {
@@ -729,6 +732,16 @@ public final class DiffBench {
             return true;
         }
 
+        /** The sign of a line of UNIFIED, or NO_SIGN. */
+        char takeSign() {
+            int sign = tape.at(at);
+            if (sign != ' ' && sign != '-' && sign != '+') {
+                return NO_SIGN;
+            }
+            at++;
+            return (char) sign;
+        }
+
         /** Goes on to the next line only if that one is the mark. */
         boolean takeMark() {
             return stands(MARK, end) && nextLine();
@@ -756,8 +769,11 @@ public final class DiffBench {
         }
 
         private boolean stands(String piece, int from) {
+            if (!tape.hasSlice(from, from + piece.length())) {
+                return false;
+            }
             for (int i = 0; i < piece.length(); i++) {
-                if (tape.at(from + i) != piece.charAt(i)) {
+                if (tape.row[from + i] != piece.charAt(i)) {
                     return false;
                 }
             }
@@ -950,14 +966,13 @@ public final class DiffBench {
             return first + shift + (letter == 'a' ? 1 : letter == 'd' ? -1 : 0);
         }
 
-        /** A letter that is none of the three is answered by a blank. */
         private char takeLetter() {
-            return in.take("a") ? 'a' : in.take("c") ? 'c' : in.take("d") ? 'd' : ' ';
+            return in.take("a") ? 'a' : in.take("c") ? 'c' : in.take("d") ? 'd' : NO_LETTER;
         }
 
         /** Only "a" names a place, so only "a" may tell a 0, and it tells no RANGE with ",". */
         private static boolean isShape(char letter, int first, int last) {
-            return letter == 'a' ? first == last : letter != ' ' && first > 0;
+            return letter == 'a' ? first == last : letter != NO_LETTER && first > 0;
         }
 
         private boolean readRow(String lineBegin, char sign, int size) {
@@ -1086,10 +1101,10 @@ public final class DiffBench {
                 if (!in.nextLine()) {
                     return false;
                 }
-                char sign = takeSign();
+                char sign = in.takeSign();
                 aLeft -= sign == '+' ? 0 : 1;
                 bLeft -= sign == '-' ? 0 : 1;
-                if (sign == 0 || aLeft < 0 || bLeft < 0) {
+                if (sign == NO_SIGN || aLeft < 0 || bLeft < 0) {
                     return false;
                 }
                 script.addLine(sign, in.at, in.end);
@@ -1098,10 +1113,6 @@ public final class DiffBench {
                 }
             }
             return true;
-        }
-
-        private char takeSign() {
-            return in.take(" ") ? ' ' : in.take("-") ? '-' : in.take("+") ? '+' : (char) 0;
         }
     }
 
