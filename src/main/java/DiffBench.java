@@ -391,7 +391,7 @@ public final class DiffBench {
     /** A text and where its lines begin. */
     private static final class Text {
         private final Bytes bytes = new Bytes(MOST_TEXT_BYTES);
-        private final int[] start = new int[MOST_LINES + 1];
+        private final int[] start = new int[MOST_LINES];
         /** Lines that are alike have the same sum; most others are told apart by it at once. */
         private final int[] sum = new int[MOST_LINES];
         private int lineCount;

@@ -165,10 +165,12 @@ public final class PromiseTests {
         due("out stays", outOf(x), "1d0\n< a\n");
         x.text(2);
         due("is", textOf(x, 2), "1d0\n< a\n");
-        x.feed(1, 2, 3, 4, 5);
-        due("more than 6000", joinLong(x), 6200);
+        due("6001", joinLong(x, 6001), 6001);
         due("load of more", x.load(), -1);
         due("tape stays", x.count(0), 20);
+        due("6000", joinLong(x, 6000), 6000);
+        due("load of as many", x.load(), 6000);
+        due("tape", x.count(0), 6000);
         setText(x, 1, "\n".repeat(200));
         setText(x, 2, "x".repeat(2000));
         x.join(0, 1, 2);
@@ -176,24 +178,21 @@ public final class PromiseTests {
         due("all of it", x.load(), x.count(1));
     }
 
-    /** Answers how many bytes come. */
-    private static int joinLong(DiffBench x) {
-        int fed = x.count(0);
+    /** A hundred clashes, of so many bytes in all (5901 to 6200); the tape has twenty bytes then. */
+    private static int joinLong(DiffBench x, int bytes) {
         StringBuilder o = new StringBuilder();
         StringBuilder a = new StringBuilder();
         StringBuilder b = new StringBuilder();
         for (int n = 0; n < 100; n++) {
             o.append("=\n0\n");
-            a.append("=\n12345678901234567\n");
-            b.append("=\nabcdefghijklmnopq\n");
+            a.append("=\n").append("a".repeat(17)).append("\n");
+            b.append("=\n").append("b".repeat(17 - (6299 - bytes - n) / 100)).append("\n");
         }
         setText(x, 0, o.toString());
         due("long a", setText(x, 1, a.toString()), 200);
         due("long b", setText(x, 2, b.toString()), 200);
         due("a hundred clashes", x.join(0, 1, 2), 100);
-        for (int n = 0; n < fed; n += 20) {
-            x.feed(n, n, n, n, n);
-        }
+        x.feed(1, 2, 3, 4, 5);
         return x.count(1);
     }
 
@@ -263,6 +262,9 @@ public final class PromiseTests {
         setText(x, 4, "x");
         due("an open one is not alike", x.pair(3, 4, 1), 0);
         due("open ones are alike", x.pair(4, 4, 1), 1);
+        setText(x, 3, "Aa\n");
+        setText(x, 4, "BB\n");
+        due("the same sum, but not alike", x.pair(3, 4, 1), 0);
         setText(x, 3, "p\nq\n");
         setText(x, 4, "q\np\n");
         due("of two ways the one that goes first", x.pair(3, 4, 1), 0);
@@ -761,7 +763,7 @@ public final class PromiseTests {
         due("out stays", outOf(x), "1d0\n< a\n");
         due("with itself", x.join(0, 0, 0), 0);
         due("is", outOf(x), "a\n");
-        due("bytes", joinLong(x), 100 * (2 + 24 + 36));
+        due("bytes", joinLong(x, 6200), 100 * (2 + 24 + 36));
     }
 
     private static void promise21Count() {
