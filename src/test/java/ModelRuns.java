@@ -1,4 +1,3 @@
-import java.nio.charset.StandardCharsets;
 import java.util.ArrayList;
 import java.util.Arrays;
 import java.util.Collections;
@@ -14,6 +13,8 @@ import java.util.regex.Pattern;
 public final class ModelRuns {
     private static final int RUNS = 3000;
     private static final int STEPS = 30;
+    /** A step fills the TAPE once at most, by 300 calls of feed(). */
+    private static final int CALLS_OF_A_STEP = 320;
     private static int wrong = 0;
     private static final int[] seen = new int[16];
 
@@ -43,7 +44,7 @@ public final class ModelRuns {
         final Random random;
         final Model model = new Model();
         final List<String> calls = new ArrayList<>();
-        DiffBench bench = new DiffBench();
+        final Bench bench = new Bench();
 
         Run(int seed) {
             this.seed = seed;
@@ -54,7 +55,7 @@ public final class ModelRuns {
             for (int t = 0; t < 4; t++) {
                 put(t, random.nextInt(3) == 0 || t == 0 ? madeText() : mutated(model.texts[random.nextInt(t)]));
             }
-            for (int step = 0; step < STEPS && wrong < 20; step++) {
+            for (int step = 0; step < STEPS && bench.callsLeft() > CALLS_OF_A_STEP && wrong < 20; step++) {
                 doStep();
             }
         }
@@ -201,18 +202,8 @@ public final class ModelRuns {
         }
 
         void tape(String text) {
-            byte[] b = text.getBytes(StandardCharsets.ISO_8859_1);
-            int size = Math.min(b.length, 6000);
-            bench.end(0);
-            for (int i = 0; i < size; i += 20) {
-                int[] five = new int[5];
-                for (int n = 0; n < 20; n++) {
-                    five[n / 4] = five[n / 4] << 8 | (i + n < size ? b[i + n] & 255 : 0);
-                }
-                bench.feed(five[0], five[1], five[2], five[3], five[4]);
-            }
-            bench.end(size);
-            model.tape = text.substring(0, size);
+            model.tape = text.substring(0, Math.min(text.length(), 6000));
+            bench.tape(model.tape);
             calls.add("tape " + model.tape.replace("\n", "|"));
         }
 

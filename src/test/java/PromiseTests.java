@@ -1,14 +1,5 @@
-import java.nio.charset.StandardCharsets;
-import java.util.ArrayList;
-import java.util.List;
-
 /** Each promise by hand: ordinary inputs, the edges that the document names, and wrong inputs. */
-public final class PromiseTests {
-    private static final String MARK = "\\ No newline at end of file\n";
-    private static int wrong = 0;
-    private static int checked = 0;
-    private static String promise = "";
-
+public final class PromiseTests extends Samples {
     public static void main(String[] args) {
         promise1NewObject();
         promise2Feed();
@@ -37,16 +28,13 @@ public final class PromiseTests {
         promise19Hunk();
         promise20Join();
         promise21Count();
-        System.out.println(checked + " answers looked at, " + wrong + " wrong");
-        if (wrong != 0) {
-            System.exit(1);
-        }
+        finish();
     }
 
     private static void promise1NewObject() {
-        promise = "1";
+        promise("1");
         due("NONE", DiffBench.NONE, -1);
-        DiffBench x = new DiffBench();
+        Bench x = new Bench();
         for (int t = 0; t < 8; t++) {
             due("size " + t, x.size(t), 0);
             due("lines " + t, x.lines(t), 0);
@@ -62,8 +50,8 @@ public final class PromiseTests {
     }
 
     private static void promise2Feed() {
-        promise = "2";
-        DiffBench x = new DiffBench();
+        promise("2");
+        Bench x = new Bench();
         due("feed", x.feed(0x01020304, 0xFFFEFDFC, 0x0A000A00, 0x80000000, 0x7F), 20);
         due("feed again", x.feed(5, 6, 7, 8, 0x090A0B0C), 40);
         due("text", x.text(3), 4);
@@ -84,8 +72,8 @@ public final class PromiseTests {
     }
 
     private static void promise3End() {
-        promise = "3";
-        DiffBench x = new DiffBench();
+        promise("3");
+        Bench x = new Bench();
         due("end(0) of an empty one", x.end(0), true);
         due("end(1) of an empty one", x.end(1), false);
         x.feed(0x61626364, 0, 0, 0, 0);
@@ -99,111 +87,96 @@ public final class PromiseTests {
         due("end(3)", x.end(3), true);
         due("end(4)", x.end(4), false);
         x.text(0);
-        due("abc", textOf(x, 0), "abc");
+        due("abc", x.textOf(0), "abc");
     }
 
     private static void promise4Text() {
-        promise = "4";
-        DiffBench x = new DiffBench();
-        tape(x, "a\nb");
+        promise("4");
+        Bench x = new Bench();
+        x.tape("a\nb");
         due("no text -1", x.text(-1), -1);
         due("no text 8", x.text(8), -1);
         due("tape stays", x.count(0), 3);
         due("text 7", x.text(7), 2);
         due("tape is empty", x.count(0), 0);
-        due("is", textOf(x, 7), "a\nb");
+        due("is", x.textOf(7), "a\nb");
         due("empty text", x.text(7), 0);
         due("is empty", x.size(7), 0);
-        due("2000 bytes", setText(x, 0, "x".repeat(2000)), 1);
-        due("2001 bytes", setText(x, 0, "y".repeat(2001)), -1);
+        due("2000 bytes", x.put(0, "x".repeat(2000)), 1);
+        due("2001 bytes", x.put(0, "y".repeat(2001)), -1);
         due("tape stays", x.count(0), 2001);
         due("text stays", x.byteAt(0, 0), 'x');
-        due("200 lines", setText(x, 0, "\n".repeat(200)), 200);
-        due("200 lines, the last open", setText(x, 0, "\n".repeat(199) + "z"), 200);
-        due("201 lines, the last open", setText(x, 0, "\n".repeat(200) + "z"), -1);
-        due("201 lines", setText(x, 0, "\n".repeat(201)), -1);
+        due("200 lines", x.put(0, "\n".repeat(200)), 200);
+        due("200 lines, the last open", x.put(0, "\n".repeat(199) + "z"), 200);
+        due("201 lines, the last open", x.put(0, "\n".repeat(200) + "z"), -1);
+        due("201 lines", x.put(0, "\n".repeat(201)), -1);
         due("text stays", x.lines(0), 200);
     }
 
     private static void promise5Keep() {
-        promise = "5";
-        DiffBench x = new DiffBench();
-        setText(x, 0, "a\nb\n");
-        setText(x, 1, "a\nc");
+        promise("5");
+        Bench x = new Bench();
+        x.put(0, "a\nb\n");
+        x.put(1, "a\nc");
         x.write(0, 1, 0, 0);
         String out = "2c2\n< b\n---\n> c\n" + MARK;
-        due("written", outOf(x), out);
+        due("written", x.outOf(), out);
         due("no text 8", x.keep(8), -1);
         due("no text -1", x.keep(-1), -1);
         due("keep", x.keep(5), 5);
-        due("is", textOf(x, 5), out);
-        due("out stays", outOf(x), out);
-        setText(x, 0, "x\n".repeat(100));
-        setText(x, 1, "y\n".repeat(100));
+        due("is", x.textOf(5), out);
+        due("out stays", x.outOf(), out);
+        x.put(0, "x\n".repeat(100));
+        x.put(1, "y\n".repeat(100));
         x.write(0, 1, 0, 0);
         due("too many lines", x.keep(5), -1);
-        due("stays", textOf(x, 5), out);
-        setText(x, 0, "");
-        setText(x, 1, "y".repeat(1994) + "\n");
+        due("stays", x.textOf(5), out);
+        x.put(0, "");
+        x.put(1, "y".repeat(1994) + "\n");
         due("2001 bytes", x.write(0, 1, 0, 0), 2001);
         due("too long", x.keep(5), -1);
-        setText(x, 1, "y".repeat(1993) + "\n");
+        x.put(1, "y".repeat(1993) + "\n");
         due("2000 bytes", x.write(0, 1, 0, 0), 2000);
         due("just as long", x.keep(5), 2);
     }
 
     private static void promise6Load() {
-        promise = "6";
-        DiffBench x = new DiffBench();
+        promise("6");
+        Bench x = new Bench();
         x.feed(1, 2, 3, 4, 5);
         due("empty", x.load(), 0);
         due("tape", x.count(0), 0);
-        setText(x, 0, "a\n");
+        x.put(0, "a\n");
         x.write(0, 1, 0, 0);
         x.feed(1, 2, 3, 4, 5);
         due("load", x.load(), 8);
-        due("out stays", outOf(x), "1d0\n< a\n");
+        due("out stays", x.outOf(), "1d0\n< a\n");
         x.text(2);
-        due("is", textOf(x, 2), "1d0\n< a\n");
-        due("6001", joinLong(x, 6001), 6001);
+        due("is", x.textOf(2), "1d0\n< a\n");
+        x = new Bench();
+        manyClashes(x, 6001);
+        x.feed(1, 2, 3, 4, 5);
         due("load of more", x.load(), -1);
         due("tape stays", x.count(0), 20);
-        due("6000", joinLong(x, 6000), 6000);
+        x = new Bench();
+        manyClashes(x, 6000);
         due("load of as many", x.load(), 6000);
         due("tape", x.count(0), 6000);
-        setText(x, 1, "\n".repeat(200));
-        setText(x, 2, "x".repeat(2000));
+        x.put(1, "\n".repeat(200));
+        x.put(2, "x".repeat(2000));
         x.join(0, 1, 2);
         x.feed(1, 2, 3, 4, 5);
         due("all of it", x.load(), x.count(1));
     }
 
-    /** A hundred clashes, of so many bytes in all (5901 to 6200); the tape has twenty bytes then. */
-    private static int joinLong(DiffBench x, int bytes) {
-        StringBuilder o = new StringBuilder();
-        StringBuilder a = new StringBuilder();
-        StringBuilder b = new StringBuilder();
-        for (int n = 0; n < 100; n++) {
-            o.append("=\n0\n");
-            a.append("=\n").append("a".repeat(17)).append("\n");
-            b.append("=\n").append("b".repeat(17 - (6299 - bytes - n) / 100)).append("\n");
-        }
-        setText(x, 0, o.toString());
-        due("long a", setText(x, 1, a.toString()), 200);
-        due("long b", setText(x, 2, b.toString()), 200);
-        due("a hundred clashes", x.join(0, 1, 2), 100);
-        x.feed(1, 2, 3, 4, 5);
-        return x.count(1);
-    }
-
     private static void promise7To9Reading() {
-        promise = "7";
-        DiffBench x = new DiffBench();
-        setText(x, 2, "ab\n\u00FF");
+        promise("7");
+        Bench x = new Bench();
+        x.put(2, "ab\n\u00FF");
         due("size", x.size(2), 4);
         due("no text -1", x.size(-1), -1);
         due("no text 8", x.size(8), -1);
-        promise = "8";
+        promise("8");
         due("byte 0", x.byteAt(2, 0), 'a');
         due("byte 3", x.byteAt(2, 3), 255);
         due("byte 4", x.byteAt(2, 4), -1);
@@ -212,25 +185,25 @@ public final class PromiseTests {
         due("byte max", x.byteAt(2, Integer.MAX_VALUE), -1);
         due("no text 8", x.byteAt(8, 0), -1);
         due("no text -1", x.byteAt(-1, 0), -1);
-        promise = "9";
+        promise("9");
         due("lines", x.lines(2), 2);
         due("no text 8", x.lines(8), -1);
         due("no text -1", x.lines(-1), -1);
-        due("ended", setText(x, 2, "a\nb\n"), 2);
-        due("one 10", setText(x, 2, "\n"), 1);
+        due("ended", x.put(2, "a\nb\n"), 2);
+        due("one 10", x.put(2, "\n"), 1);
     }
 
     private static void promise10To13Script() {
-        DiffBench x = new DiffBench();
-        setText(x, 0, "a\nb\nc\na\nb\nb\na\n");
-        setText(x, 1, "c\nb\na\nb\na\nc\n");
-        promise = "10";
+        Bench x = new Bench();
+        x.put(0, "a\nb\nc\na\nb\nb\na\n");
+        x.put(1, "c\nb\na\nb\na\nc\n");
+        promise("10");
         due("common", x.common(0, 1), 4);
         due("common with itself", x.common(1, 1), 6);
         due("common with an empty one", x.common(0, 2), 0);
         due("no text", x.common(0, 8), -1);
         due("no text", x.common(-1, 0), -1);
-        promise = "11";
+        promise("11");
         int[] pairs = {0, 0, 1, 0, 2, 4, 5};
         for (int i = 0; i < pairs.length; i++) {
             due("pair " + (i + 1), x.pair(0, 1, i + 1), pairs[i]);
@@ -240,12 +213,12 @@ public final class PromiseTests {
         due("pair min", x.pair(0, 1, Integer.MIN_VALUE), -1);
         due("pair of no text", x.pair(0, 8, 1), -1);
         due("pair with an empty text", x.pair(0, 2, 1), 0);
-        promise = "12";
+        promise("12");
         due("changes", x.changes(0, 1), 4);
         due("none", x.changes(1, 1), 0);
         due("no text", x.changes(8, 1), -1);
         due("no text", x.changes(1, -1), -1);
-        promise = "13";
+        promise("13");
         int[][] changes = {{0, 2, 0, 0}, {3, 1, 1, 0}, {5, 0, 2, 1}, {7, 0, 5, 1}};
         for (int k = 0; k < 4; k++) {
             for (int what = 0; what < 4; what++) {
@@ -257,41 +230,41 @@ public final class PromiseTests {
         due("what -1", x.change(0, 1, 0, -1), -1);
         due("what 4", x.change(0, 1, 0, 4), -1);
         due("no text", x.change(0, 8, 0, 0), -1);
-        promise = "11";
-        setText(x, 3, "x\n");
-        setText(x, 4, "x");
+        promise("11");
+        x.put(3, "x\n");
+        x.put(4, "x");
         due("an open one is not alike", x.pair(3, 4, 1), 0);
         due("open ones are alike", x.pair(4, 4, 1), 1);
-        setText(x, 3, "Aa\n");
-        setText(x, 4, "BB\n");
+        x.put(3, "Aa\n");
+        x.put(4, "BB\n");
         due("the same sum, but not alike", x.pair(3, 4, 1), 0);
-        setText(x, 3, "p\nq\n");
-        setText(x, 4, "q\np\n");
+        x.put(3, "p\nq\n");
+        x.put(4, "q\np\n");
         due("of two ways the one that goes first", x.pair(3, 4, 1), 0);
         due("of two ways the one that goes first", x.pair(3, 4, 2), 1);
-        setText(x, 4, "p\nq\n");
+        x.put(4, "p\nq\n");
         due("after the text has changed", x.pair(3, 4, 1), 1);
-        promise = "13";
-        setText(x, 3, "s\n");
-        setText(x, 4, "y\ns\ns\n");
+        promise("13");
+        x.put(3, "s\n");
+        x.put(4, "y\ns\ns\n");
         due("pairs as soon as alike", x.pair(3, 4, 1), 2);
         due("two changes", x.changes(3, 4), 2);
         StringBuilder a = new StringBuilder();
         for (int n = 0; n < 100; n++) {
             a.append("=\n\n");
         }
-        setText(x, 5, a.toString());
-        setText(x, 6, "=\n".repeat(100));
-        promise = "12";
+        x.put(5, a.toString());
+        x.put(6, "=\n".repeat(100));
+        promise("12");
         due("a hundred", x.changes(5, 6), 100);
-        setText(x, 6, "!\n".repeat(200));
+        x.put(6, "!\n".repeat(200));
         due("one of 400 lines", x.changes(5, 6), 1);
         due("goes", x.change(5, 6, 0, 1), 200);
         due("comes", x.change(5, 6, 0, 3), 200);
     }
 
     private static void promise14WriteNormal() {
-        promise = "14 NORMAL";
+        promise("14 NORMAL");
         due("same", written("a\n", "a\n", 0, 0), "");
         due("add ahead", written("c\n", "a\nb\nc\n", 0, 0), "0a1,2\n> a\n> b\n");
         due("add one behind", written("a\n", "a\nb\n", 0, -5), "1a2\n> b\n");
@@ -301,8 +274,8 @@ public final class PromiseTests {
         due("open a", written("a\nb", "a\nb\n", 0, 0), "2c2\n< b\n" + MARK + "---\n> b\n");
         due("open b", written("a\nb\n", "a\nb", 0, 0), "2c2\n< b\n---\n> b\n" + MARK);
         due("open pair", written("x\nb", "y\nb", 0, 0), "1c1\n< x\n---\n> y\n");
-        DiffBench x = new DiffBench();
-        setText(x, 0, "a\n");
+        Bench x = new Bench();
+        x.put(0, "a\n");
         x.write(0, 1, 0, 0);
         due("no text", x.write(0, 8, 0, 0), -1);
         due("no text", x.write(-1, 0, 0, 0), -1);
@@ -310,11 +283,11 @@ public final class PromiseTests {
         due("no form", x.write(1, 0, -1, 0), -1);
         due("no n", x.write(1, 0, 1, -1), -1);
         due("no n", x.write(1, 0, 1, 10), -1);
-        due("out stays", outOf(x), "1d0\n< a\n");
+        due("out stays", x.outOf(), "1d0\n< a\n");
     }
 
     private static void promise14WriteUnified() {
-        promise = "14 UNIFIED";
+        promise("14 UNIFIED");
         String a = "1\n2\n3\n4\n5\n6\n7\n8\n9\n";
         String b = "1\n2\nx\n4\n5\n6\n7\ny\n8\n9\n";
         String head = "--- a\n+++ b\n";
@@ -338,7 +311,7 @@ public final class PromiseTests {
     }
 
     private static void promise14WriteEd() {
-        promise = "14 ED";
+        promise("14 ED");
         due("same", written("a\n", "a\n", 2, 0), "");
         due("from the last on", written("1\n2\n3\n4\n5\n6\n", "0\n1\nx\n4\n5\n", 2, 0), "6d\n2,3c\nx\n.\n0a\n0\n.\n");
         due("range", written("1\n2\n3\n", "1\n", 2, 0), "2,3d\n");
@@ -352,9 +325,9 @@ public final class PromiseTests {
     }
 
     private static void promise15Out() {
-        promise = "15";
-        DiffBench x = new DiffBench();
-        setText(x, 0, "\u00FE\n");
+        promise("15");
+        Bench x = new Bench();
+        x.put(0, "\u00FE\n");
         due("bytes", x.write(0, 1, 0, 0), 8);
         due("0", x.out(0), '1');
         due("6", x.out(6), 254);
@@ -365,10 +338,10 @@ public final class PromiseTests {
     }
 
     private static void promise16Arguments() {
-        promise = "16 arguments";
-        DiffBench x = new DiffBench();
-        setText(x, 0, "a\n");
-        tape(x, "no script\n");
+        promise("16 arguments");
+        Bench x = new Bench();
+        x.put(0, "a\n");
+        x.tape("no script\n");
         int[][] none = {{-1, 0, 0, 1}, {8, 0, 0, 1}, {0, 0, 0, 8}, {0, 0, 0, -1}, {0, 3, 0, 1}, {0, -1, 0, 1},
             {0, 1, -1, 1}, {0, 1, 4, 1}};
         for (int[] n : none) {
@@ -383,12 +356,12 @@ public final class PromiseTests {
         due("f does not matter in ED", x.apply(0, 2, 7, 2), 0);
         due("f 3 in UNIFIED", x.apply(0, 1, 3, 3), 0);
         for (int t = 0; t < 4; t++) {
-            due("an empty script changes nothing", textOf(x, t), "a\n");
+            due("an empty script changes nothing", x.textOf(t), "a\n");
         }
     }
 
     private static void promise16Normal() {
-        promise = "16 NORMAL";
+        promise("16 NORMAL");
         due("add", applied("1\n2\n", "0a1\n> 0\n2a4,5\n> 3\n> 4\n", 0), "0\n1\n2\n3\n4\n");
         due("delete", applied("1\n2\n3\n", "1,2d0\n< 1\n< 2\n", 0), "3\n");
         due("change", applied("1\n2\n3\n", "2c2,3\n< 2\n---\n> x\n> y\n", 0), "1\nx\ny\n3\n");
@@ -406,17 +379,17 @@ public final class PromiseTests {
         due("an open one comes, not last", applied("1\n2\n", "1c1\n< 1\n---\n> x\n" + MARK, 0), "x\n2\n");
         due("behind an open one", applied("1", "1a2\n> 2\n", 0), "1\n2\n");
         due("behind an open one, open", applied("1", "1a2\n> 2\n" + MARK, 0), "1\n2");
-        DiffBench x = new DiffBench();
-        setText(x, 0, "1\n");
-        tape(x, "1a2\n> 2\n");
+        Bench x = new Bench();
+        x.put(0, "1\n");
+        x.tape("1a2\n> 2\n");
         due("to itself", x.apply(0, 0, 0, 0), 0);
-        due("is", textOf(x, 0), "1\n2\n");
+        due("is", x.textOf(0), "1\n2\n");
         due("tape stays", x.count(0), 8);
         due("no hunks", x.count(2), 0);
     }
 
     private static void promise16NormalWrong() {
-        promise = "16 NORMAL, WRONG";
+        promise("16 NORMAL, WRONG");
         String text = "1\n2\n3\n4\n5\n";
         String[] firstLineWrong = {"\n", "x\n", "1\n", "a1\n", "1a\n", "1b2\n", "1a2 \n> x\n", " 1a2\n> x\n", "01a2\n> x\n", "1a02\n> x\n",
             "1,2a3\n> x\n", "1d0,1\n< 1\n", "1,1d0\n< 1\n", "2,1d0\n< 1\n", "0d0\n< x\n", "0c0\n< 1\n---\n> 2\n",
@@ -450,7 +423,7 @@ public final class PromiseTests {
     }
 
     private static void promise16Ed() {
-        promise = "16 ED";
+        promise("16 ED");
         due("all", applied("1\n2\n3\n4\n5\n6\n", "6d\n2,3c\nx\n.\n0a\n0\n.\n", 2), "0\n1\nx\n4\n5\n");
         due("a behind the last", applied("1\n", "1a\n2\n.\n", 2), "1\n2\n");
         due("a beyond the last", applied("1\n", "2a\n2\n.\n", 2), "fault 2 0");
@@ -464,7 +437,7 @@ public final class PromiseTests {
     }
 
     private static void promise16EdWrong() {
-        promise = "16 ED, WRONG";
+        promise("16 ED, WRONG");
         String text = "1\n2\n3\n4\n5\n";
         String[] firstLineWrong = {"\n", "d\n", "1\n", "1x\n", "1d \n", "01d\n", "2,2d\n", "3,2d\n", "1,2a\nx\n.\n",
             "0d\n", "0c\nx\n.\n", "0,1d\n", "100000d\n", "1d", ".\n", "1,d\n", ",1d\n", "1d2\n"};
@@ -489,7 +462,7 @@ public final class PromiseTests {
     }
 
     private static void promise16Unified() {
-        promise = "16 UNIFIED";
+        promise("16 UNIFIED");
         String head = "--- x\n+++ y\n";
         due("one hunk", applied("1\n2\n3\n", head + "@@ -1,3 +1,3 @@\n 1\n-2\n+x\n 3\n", 1), "1\nx\n3\n");
         due("two hunks", applied("1\n2\n3\n", head + "@@ -1 +0,0 @@\n-1\n@@ -3 +2 @@\n-3\n+x\n", 1), "2\nx\n");
@@ -510,12 +483,12 @@ public final class PromiseTests {
     }
 
     private static void promise16UnifiedPlaces() {
-        promise = "16 PLACES";
+        promise("16 PLACES");
         String head = "--- x\n+++ y\n";
-        DiffBench x = new DiffBench();
-        setText(x, 0, "=\n1\n=\n2\n=\n3\n=\n");
+        Bench x = new Bench();
+        x.put(0, "=\n1\n=\n2\n=\n3\n=\n");
         due("more by the distance first", hunks(x, head + "@@ -4 +4 @@\n-=\n+z\n", 0), "0: 4 1 0");
-        due("is", textOf(x, 1), "=\n1\n=\n2\nz\n3\n=\n");
+        due("is", x.textOf(1), "=\n1\n=\n2\nz\n3\n=\n");
         due("a distance 0", hunks(x, head + "@@ -3 +4 @@\n-=\n+z\n", 0), "0: 2 0 0");
         due("less by it", hunks(x, head + "@@ -99999 +4 @@\n-=\n+z\n", 0), "0: 6 -99992 0");
         due("far beyond, and back with its shift",
@@ -529,49 +502,49 @@ public final class PromiseTests {
             hunks(x, head + "@@ -1 +0,0 @@\n-2\n@@ -2 +0,0 @@\n-1\n", 0), "1: 3 3 0, -1 0 0");
         due("right behind the end", hunks(x, head + "@@ -1 +0,0 @@\n-2\n@@ -2,2 +0,0 @@\n-=\n-3\n", 0), "0: 3 3 0, 4 3 0");
         due("no old lines: as many ahead", hunks(x, head + "@@ -3,0 +4 @@\n+z\n", 0), "0: 3 0 0");
-        due("is", textOf(x, 1), "=\n1\n=\nz\n2\n=\n3\n=\n");
+        due("is", x.textOf(1), "=\n1\n=\nz\n2\n=\n3\n=\n");
         due("no old lines: at the end", hunks(x, head + "@@ -7,0 +8 @@\n+z\n", 0), "0: 7 0 0");
         due("no old lines: beyond the end", hunks(x, head + "@@ -9,0 +8 @@\n+z\n", 0), "0: 7 -2 0");
         due("no old lines: not ahead of that end",
             hunks(x, head + "@@ -1 +0,0 @@\n-3\n@@ -1,0 +1 @@\n+z\n", 0), "0: 5 5 0, 6 5 0");
         due("twice at one place", hunks(x, head + "@@ -3,0 +4 @@\n+z\n@@ -3,0 +4 @@\n+y\n", 0), "0: 3 0 0, 3 0 0");
-        due("is", textOf(x, 1), "=\n1\n=\nz\ny\n2\n=\n3\n=\n");
+        due("is", x.textOf(1), "=\n1\n=\nz\ny\n2\n=\n3\n=\n");
         due("more old lines than the text has", hunks(x, head + "@@ -1,8 +0,0 @@\n-=\n-1\n-=\n-2\n-=\n-3\n-=\n-=\n", 0), "1: -1 0 0");
     }
 
     private static void promise16UnifiedFuzz() {
-        promise = "16 FUZZ";
+        promise("16 FUZZ");
         String head = "--- x\n+++ y\n";
-        DiffBench x = new DiffBench();
-        setText(x, 0, "a\nb\nc\nd\ne\nf\ng\n");
+        Bench x = new Bench();
+        x.put(0, "a\nb\nc\nd\ne\nf\ng\n");
         String hunk = head + "@@ -2,5 +2,5 @@\n X\n c\n-d\n+D\n e\n Y\n";
         due("0", hunks(x, hunk, 0), "1: -1 0 0");
         due("1", hunks(x, hunk, 1), "0: 2 0 1");
-        due("is", textOf(x, 1), "a\nb\nc\nD\ne\nf\ng\n");
+        due("is", x.textOf(1), "a\nb\nc\nD\ne\nf\ng\n");
         due("3 gives the least", hunks(x, hunk, 3), "0: 2 0 1");
         String deep = head + "@@ -1,7 +1,7 @@\n X\n Y\n Z\n-d\n+D\n U\n V\n W\n";
         due("2 is too little", hunks(x, deep, 2), "1: -1 0 0");
         due("3", hunks(x, deep, 3), "0: 3 0 3");
-        due("is", textOf(x, 1), "a\nb\nc\nD\ne\nf\ng\n");
+        due("is", x.textOf(1), "a\nb\nc\nD\ne\nf\ng\n");
         due("as many as there are", hunks(x, head + "@@ -4,4 +4,4 @@\n-d\n+D\n U\n V\n W\n", 3), "0: 3 0 3");
         due("a sign ahead of the blanks keeps them", hunks(x, head + "@@ -3,2 +3,2 @@\n-c\n+C\n X\n+y\n".replace("+3,2", "+3,3"), 3), "1: -1 0 0");
         due("pure insertion among strange lines", hunks(x, head + "@@ -3,2 +3,3 @@\n X\n+n\n Y\n", 1), "0: 3 0 1");
-        due("is", textOf(x, 1), "a\nb\nc\nn\nd\ne\nf\ng\n");
+        due("is", x.textOf(1), "a\nb\nc\nn\nd\ne\nf\ng\n");
         due("fuzz 0 far away goes ahead of fuzz 1 near",
             hunks(x, head + "@@ -2,2 +2,2 @@\n f\n-g\n+G\n", 1), "0: 5 4 0");
         due("all blanks", hunks(x, head + "@@ -3,3 +3,3 @@\n X\n Y\n Z\n", 2), "0: 4 0 2");
-        due("is", textOf(x, 1), "a\nb\nc\nd\ne\nf\ng\n");
+        due("is", x.textOf(1), "a\nb\nc\nd\ne\nf\ng\n");
         due("the shift leaves out what was left out",
             hunks(x, head + "@@ -1,3 +1,3 @@\n X\n-d\n+D\n Y\n@@ -4 +4 @@\n-f\n+F\n", 1), "0: 3 2 1, 5 2 0");
         due("the end is without what was left out",
             hunks(x, head + "@@ -2,3 +2,3 @@\n b\n-c\n+C\n X\n@@ -5 +5 @@\n-d\n+D\n", 1), "0: 2 0 1, 3 -1 0");
-        setText(x, 0, "a\nb");
+        x.put(0, "a\nb");
         due("an open blank is left out", hunks(x, head + "@@ -1,2 +1,2 @@\n-a\n+A\n b\n", 1), "0: 0 0 1");
-        due("is", textOf(x, 1), "A\nb");
+        due("is", x.textOf(1), "A\nb");
     }
 
     private static void promise16UnifiedWrong() {
-        promise = "16 UNIFIED, WRONG";
+        promise("16 UNIFIED, WRONG");
         String head = "--- x\n+++ y\n";
         String text = "1\n2\n3\n";
         due("no first line", applied(text, "@@ -1 +1 @@\n-1\n+x\n", 1), "fault 1 1");
@@ -612,48 +585,49 @@ public final class PromiseTests {
     }
 
     private static void promise16TooLong() {
-        promise = "16 too long";
-        DiffBench x = new DiffBench();
-        setText(x, 0, "\n".repeat(199));
-        setText(x, 1, "old");
-        tape(x, "0a1\n> x\n");
+        promise("16 too long");
+        Bench x = new Bench();
+        x.put(0, "\n".repeat(199));
+        x.put(1, "old");
+        x.tape("0a1\n> x\n");
         due("200 lines", x.apply(0, 0, 0, 2), 0);
         due("201 lines", x.apply(2, 0, 0, 1), -1);
         due("fault 0", x.fault(0), 3);
         due("fault 1", x.fault(1), 0);
-        due("stays", textOf(x, 1), "old");
-        setText(x, 0, "y".repeat(1997) + "\n");
-        tape(x, "0a1\n> x\n");
+        due("stays", x.textOf(1), "old");
+        x.put(0, "y".repeat(1997) + "\n");
+        x.tape("0a1\n> x\n");
         due("2000 bytes", x.apply(0, 0, 0, 2), 0);
-        setText(x, 0, "y".repeat(1998) + "\n");
-        tape(x, "0a1\n> x\n");
+        x.put(0, "y".repeat(1998) + "\n");
+        x.tape("0a1\n> x\n");
         due("2001 bytes", x.apply(0, 0, 0, 1), -1);
         due("fault 0", x.fault(0), 3);
-        setText(x, 0, "y".repeat(1998));
-        tape(x, "1a2\n> x\n" + MARK);
+        x = new Bench();
+        x.put(0, "y".repeat(1998));
+        x.tape("1a2\n> x\n" + MARK);
         due("2000 bytes with the 10 that comes", x.apply(0, 0, 0, 2), 0);
         due("size", x.size(2), 2000);
-        setText(x, 0, "y".repeat(1999));
-        tape(x, "1a2\n> x\n" + MARK);
+        x.put(0, "y".repeat(1999));
+        x.tape("1a2\n> x\n" + MARK);
         due("2001 bytes with the 10 that comes", x.apply(0, 0, 0, 1), -1);
         due("fault 0", x.fault(0), 3);
-        tape(x, "0a\n" + "z".repeat(5000) + "\n.\n");
+        x.tape("0a\n" + "z".repeat(5000) + "\n.\n");
         due("far too long", x.apply(0, 2, 0, 1), -1);
         due("fault 0", x.fault(0), 3);
-        setText(x, 3, "1\n");
-        tape(x, "--- a\n+++ b\n@@ -1 +1 @@\n-1\n+2\n");
+        x.put(3, "1\n");
+        x.tape("--- a\n+++ b\n@@ -1 +1 @@\n-1\n+2\n");
         due("hunk", x.apply(3, 1, 0, 4), 0);
-        setText(x, 3, "\n".repeat(200));
-        tape(x, "--- a\n+++ b\n@@ -1,0 +1 @@\n+2\n@@ -2,0 +1 @@\n+2\n");
+        x.put(3, "\n".repeat(200));
+        x.tape("--- a\n+++ b\n@@ -1,0 +1 @@\n+2\n@@ -2,0 +1 @@\n+2\n");
         due("too long in UNIFIED", x.apply(3, 1, 0, 4), -1);
         due("fault 0", x.fault(0), 3);
         due("hunks stay", x.count(2), 1);
         due("the place stays", x.hunk(0, 0), 0);
-        due("stays", textOf(x, 4), "2\n");
+        due("stays", x.textOf(4), "2\n");
     }
 
     private static void promise17Turn() {
-        promise = "17";
+        promise("17");
         due("a", turned("1a2,3\n> x\n> y\n", 0), "2,3d1\n< x\n< y\n");
         due("d", turned("2,3d1\n< x\n< y\n", 0), "1a2,3\n> x\n> y\n");
         due("c", turned("2,3c2\n< x\n< y\n---\n> z\n" + MARK, 0), "2c2,3\n< z\n" + MARK + "---\n> x\n> y\n");
@@ -665,10 +639,10 @@ public final class PromiseTests {
             "--- b\n+++ a\n@@ -1,5 +1,6 @@\n-1\n-3\n+2\n" + MARK + "+4\n 5\n-8\n+6\n+7\n 9\n");
         due("hunks", turned("--- a\n+++ b\n@@ -1 +0,0 @@\n-1\n@@ -3,0 +3 @@\n+x\n", 1),
             "--- b\n+++ a\n@@ -0,0 +1 @@\n+1\n@@ -3 +3,0 @@\n-x\n");
-        DiffBench x = new DiffBench();
-        setText(x, 0, "a\n");
+        Bench x = new Bench();
+        x.put(0, "a\n");
         x.write(0, 1, 0, 0);
-        tape(x, "1a\n");
+        x.tape("1a\n");
         due("not well formed", x.turn(0), -1);
         due("fault 0", x.fault(0), 1);
         due("fault 1", x.fault(1), 1);
@@ -677,21 +651,21 @@ public final class PromiseTests {
         due("fault 1", x.fault(1), 0);
         due("no form -1", x.turn(-1), -1);
         due("no form 3", x.turn(3), -1);
-        due("out stays", outOf(x), "1d0\n< a\n");
+        due("out stays", x.outOf(), "1d0\n< a\n");
         due("tape stays", x.count(0), 3);
-        tape(x, "--- a\n+++ b\n@@ -1 +1 @@\n-1\n+2\n");
+        x.tape("--- a\n+++ b\n@@ -1 +1 @@\n-1\n+2\n");
         int size = x.count(0);
         due("turn", x.turn(1), size);
         due("tape stays", x.count(0), size);
-        due("texts stay", textOf(x, 0), "a\n");
+        due("texts stay", x.textOf(0), "a\n");
     }
 
     private static void promise18Fault() {
-        promise = "18";
-        DiffBench x = new DiffBench();
+        promise("18");
+        Bench x = new Bench();
         due("what -1", x.fault(-1), -1);
         due("what 2", x.fault(2), -1);
-        tape(x, "1d0\n< 1\nx\n");
+        x.tape("1d0\n< 1\nx\n");
         x.apply(0, 0, 0, 1);
         due("1", x.fault(0), 1);
         due("line 3", x.fault(1), 3);
@@ -711,21 +685,21 @@ public final class PromiseTests {
     }
 
     private static void promise19Hunk() {
-        promise = "19";
-        DiffBench x = new DiffBench();
+        promise("19");
+        Bench x = new Bench();
         due("none", x.hunk(0, 0), -1);
-        setText(x, 0, "1\n2\n3\n");
+        x.put(0, "1\n2\n3\n");
         due("apply", hunks(x, "--- a\n+++ b\n@@ -1 +1 @@\n-2\n+x\n@@ -5 +5 @@\n-q\n+y\n", 0), "1: 1 1 0, -1 0 0");
         due("k 2", x.hunk(2, 0), -1);
         due("k -1", x.hunk(-1, 0), -1);
         due("k max", x.hunk(Integer.MAX_VALUE, 0), -1);
         due("what 3", x.hunk(0, 3), -1);
         due("what -1", x.hunk(0, -1), -1);
-        tape(x, "--- a\n+++ b\n@@ -1 +1 @@\n");
+        x.tape("--- a\n+++ b\n@@ -1 +1 @@\n");
         x.apply(0, 1, 0, 1);
         due("one that was NONE changes nothing", x.hunk(0, 0), 1);
         x.turn(1);
-        tape(x, "1d\n");
+        x.tape("1d\n");
         due("ED", x.apply(0, 2, 0, 1), 0);
         due("one of ED changes nothing", x.hunk(0, 0), 1);
         x.end(0);
@@ -735,7 +709,7 @@ public final class PromiseTests {
     }
 
     private static void promise20Join() {
-        promise = "20";
+        promise("20");
         due("all the same", joined("1\n2\n", "1\n2\n", "1\n2\n"), "0: 1\n2\n");
         due("a alone", joined("1\n2\n3\n", "1\nx\n3\n", "1\n2\n3\n"), "0: 1\nx\n3\n");
         due("b alone", joined("1\n2\n3\n", "1\n2\n3\n", "1\n3\ny\n"), "0: 1\n3\ny\n");
@@ -754,130 +728,31 @@ public final class PromiseTests {
         due("of nothing", joined("", "", ""), "0: ");
         due("both add the same", joined("", "x", "x"), "0: x");
         due("both add", joined("", "x", "y\n"), "1: <<<<<<<\nx\n=======\ny\n>>>>>>>\n");
-        DiffBench x = new DiffBench();
-        setText(x, 0, "a\n");
+        Bench x = new Bench();
+        x.put(0, "a\n");
         x.write(0, 1, 0, 0);
         due("no text", x.join(8, 0, 0), -1);
         due("no text", x.join(0, -1, 0), -1);
         due("no text", x.join(0, 0, 8), -1);
-        due("out stays", outOf(x), "1d0\n< a\n");
+        due("out stays", x.outOf(), "1d0\n< a\n");
         due("with itself", x.join(0, 0, 0), 0);
-        due("is", outOf(x), "a\n");
-        due("bytes", joinLong(x, 6200), 100 * (2 + 24 + 36));
+        due("is", x.outOf(), "a\n");
+        manyClashes(x, 100 * (2 + 24 + 36));
     }
 
     private static void promise21Count() {
-        promise = "21";
-        DiffBench x = new DiffBench();
+        promise("21");
+        Bench x = new Bench();
         due("what -1", x.count(-1), -1);
         due("what 3", x.count(3), -1);
-        setText(x, 0, "1\n");
+        x.put(0, "1\n");
         due("out", x.write(0, 1, 0, 0), 8);
         due("1", x.count(1), 8);
-        tape(x, "--- a\n+++ b\n@@ -1 +1 @@\n-1\n+x\n@@ -5 +5 @@\n-q\n+y\n");
+        x.tape("--- a\n+++ b\n@@ -1 +1 @@\n-1\n+x\n@@ -5 +5 @@\n-q\n+y\n");
         due("0", x.count(0), 48);
         x.apply(0, 1, 0, 1);
         due("2", x.count(2), 2);
         x.apply(0, 0, 0, 1);
         due("still 2", x.count(2), 2);
-    }
-
-    private static int setText(DiffBench x, int t, String text) {
-        tape(x, text);
-        return x.text(t);
-    }
-
-    private static void tape(DiffBench x, String text) {
-        byte[] b = text.getBytes(StandardCharsets.ISO_8859_1);
-        x.end(0);
-        for (int i = 0; i < b.length; i += 20) {
-            int[] five = new int[5];
-            for (int n = 0; n < 20; n++) {
-                five[n / 4] = five[n / 4] << 8 | (i + n < b.length ? b[i + n] & 255 : 0);
-            }
-            x.feed(five[0], five[1], five[2], five[3], five[4]);
-        }
-        x.end(b.length);
-    }
-
-    private static String textOf(DiffBench x, int t) {
-        StringBuilder s = new StringBuilder();
-        for (int i = 0; i < x.size(t); i++) {
-            s.append((char) x.byteAt(t, i));
-        }
-        return s.toString();
-    }
-
-    private static String outOf(DiffBench x) {
-        StringBuilder s = new StringBuilder();
-        for (int i = 0; x.out(i) != -1; i++) {
-            s.append((char) x.out(i));
-        }
-        return s.toString();
-    }
-
-    /** What write() puts out; null where it is NONE. */
-    private static String written(String a, String b, int form, int n) {
-        DiffBench x = new DiffBench();
-        setText(x, 2, a);
-        setText(x, 5, b);
-        int bytes = x.write(2, 5, form, n);
-        String out = outOf(x);
-        due("bytes", bytes, bytes == -1 ? -1 : out.length());
-        return bytes == -1 ? null : out;
-    }
-
-    /** What comes of it, or the two numbers of fault(). */
-    private static String applied(String text, String script, int form) {
-        DiffBench x = new DiffBench();
-        setText(x, 0, text);
-        setText(x, 1, "as it was");
-        tape(x, script);
-        int rejected = x.apply(0, form, 0, 1);
-        due("the text itself stays", textOf(x, 0), text);
-        if (rejected == -1) {
-            due("what is refused changes nothing", textOf(x, 1), "as it was");
-            return "fault " + x.fault(0) + " " + x.fault(1);
-        }
-        due("no fault", x.fault(0) + x.fault(1), 0);
-        return (rejected == 0 ? "" : rejected + " rejected: ") + textOf(x, 1);
-    }
-
-    /** TEXT 0 to TEXT 1: how many were rejected, and of each hunk place, shift and fuzz. */
-    private static String hunks(DiffBench x, String script, int f) {
-        tape(x, script);
-        int rejected = x.apply(0, 1, f, 1);
-        List<String> all = new ArrayList<>();
-        for (int k = 0; k < x.count(2); k++) {
-            all.add(x.hunk(k, 0) + " " + x.hunk(k, 1) + " " + x.hunk(k, 2));
-        }
-        return rejected + ": " + String.join(", ", all);
-    }
-
-    private static String turned(String script, int form) {
-        DiffBench x = new DiffBench();
-        tape(x, script);
-        due("bytes", x.turn(form), script.length());
-        return outOf(x);
-    }
-
-    private static String joined(String o, String a, String b) {
-        DiffBench x = new DiffBench();
-        setText(x, 0, o);
-        setText(x, 1, a);
-        setText(x, 2, b);
-        return x.join(0, 1, 2) + ": " + outOf(x);
-    }
-
-    private static void due(String call, int got, int want) {
-        due(call, (Object) got, (Object) want);
-    }
-
-    private static void due(String call, Object got, Object want) {
-        checked++;
-        if (want == null ? got != null : !want.equals(got)) {
-            wrong++;
-            System.out.println("promise " + promise + ", " + call + ": answered [" + got + "], due is [" + want + "]");
-        }
     }
 }
