@@ -7,6 +7,7 @@ import java.util.function.ToIntFunction;
 /** Counts answers that are not the ones due, and names the promise and the sentence they belong to. */
 abstract class Checks {
     private static final String DOCUMENT = documentInOneLine();
+    private static final String REFUSED = ", \"What is refused changes nothing but what fault() tells.\"";
     private static String topic = "";
     private static int checked = 0;
     private static int wrong = 0;
@@ -33,11 +34,11 @@ abstract class Checks {
         checked++;
         if (want == null ? got != null : !want.equals(got)) {
             wrong++;
-            System.out.println(topic + ", " + call + ": answered [" + got + "], due is [" + want + "]");
+            System.out.println(topic + ", " + call + ": answered [" + shortened(got) + "], due is [" + shortened(want) + "]");
         }
     }
 
-    /** The call answers NONE, and "What is refused changes nothing": fault() tells the same, too. */
+    /** The call answers NONE, and changes nothing: fault() tells the same, too. */
     static void refused(String call, Bench x, ToIntFunction<Bench> refusedCall) {
         refusedWith(x.faults(), call, x, refusedCall);
     }
@@ -46,8 +47,8 @@ abstract class Checks {
     static void refusedWith(String faults, String call, Bench x, ToIntFunction<Bench> refusedCall) {
         String state = x.state();
         due(call, refusedCall.applyAsInt(x), DiffBench.NONE);
-        due(call + ", then fault()", x.faults(), faults);
-        due(call + ", then all the rest", x.state(), state);
+        due(call + REFUSED + ": fault()", x.faults(), faults);
+        due(call + REFUSED + ": all the rest", x.state(), state);
     }
 
     static void finish() {
@@ -55,6 +56,11 @@ abstract class Checks {
         if (wrong != 0) {
             System.exit(1);
         }
+    }
+
+    private static String shortened(Object answer) {
+        String s = String.valueOf(answer).replace("\n", "|");
+        return s.length() <= 600 ? s : s.substring(0, 600) + " .. of " + s.length();
     }
 
     private static String documentInOneLine() {
