@@ -1,8 +1,5 @@
 /** The boundary cases of applying and turning round, section 4 of the terms: promises 16, 17 and 19. */
 public final class ApplyBoundaries extends Samples {
-    private static final int MIN = Integer.MIN_VALUE;
-    private static final int MAX = Integer.MAX_VALUE;
-
     public static void main(String[] args) {
         arguments();
         whichReasonFirst();

@@ -126,5 +126,12 @@ public final class JoinBoundaries extends Samples {
         x.put(0, "=\n".repeat(200));
         due("200 ANCHORS", x.join(0, 0, 0), 0);
         due("200 ANCHORS", x.outOf(), "=\n".repeat(200));
+        x.put(1, "a\n");
+        x.put(2, "b\n");
+        x.put(3, "1\n");
+        for (int n = 0; n < 2; n++) {
+            due("a CLASH, again and again", x.join(3, 1, 2), 1);
+            due("a CLASH, again and again", x.outOf(), "<<<<<<<\na\n=======\nb\n>>>>>>>\n");
+        }
     }
 }

@@ -1,8 +1,5 @@
 /** The boundary cases of what is WELL FORMED, section 3 of the terms, as apply(), turn() and fault() tell it: promises 16 to 18. */
 public final class ReadingBoundaries extends Samples {
-    private static final int MIN = Integer.MIN_VALUE;
-    private static final int MAX = Integer.MAX_VALUE;
-
     public static void main(String[] args) {
         lastLine();
         missingLine();

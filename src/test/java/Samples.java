@@ -2,11 +2,13 @@
 abstract class Samples extends Checks {
     static final String MARK = "\\ No newline at end of file\n";
     static final String NAMES = "--- x\n+++ y\n";
+    static final int MIN = Integer.MIN_VALUE;
+    static final int MAX = Integer.MAX_VALUE;
     static final int NORMAL = 0;
     static final int UNIFIED = 1;
     static final int ED = 2;
     /** What is no TEXT. */
-    static final int[] NO_TEXTS = {-1, 8, Integer.MIN_VALUE, Integer.MAX_VALUE};
+    static final int[] NO_TEXTS = {-1, 8, MIN, MAX};
 
     /** Nothing of it is empty or 0, so that whatever a refused call changes can be seen. */
     static Bench busy() {

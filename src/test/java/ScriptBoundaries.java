@@ -1,7 +1,5 @@
 /** The boundary cases of promises 10 to 14: the SCRIPT and its three forms, section 2 of the terms. */
 public final class ScriptBoundaries extends Samples {
-    private static final int MIN = Integer.MIN_VALUE;
-    private static final int MAX = Integer.MAX_VALUE;
     private static final String HEAD = "--- a\n+++ b\n";
 
     public static void main(String[] args) {
@@ -153,7 +151,9 @@ public final class ScriptBoundaries extends Samples {
         Bench x = new Bench();
         x.put(0, "=\n".repeat(200));
         x.put(1, "=\n".repeat(200));
+        x.put(2, "=\n=\n");
         due("200 LINES", x.common(0, 1), 200);
+        due("2 LINES behind that", x.common(2, 2), 2);
         x.put(0, "=\n=\n");
         due("2 to 200", x.common(0, 1), 2);
         x.put(1, "=\n");

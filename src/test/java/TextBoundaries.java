@@ -1,8 +1,5 @@
 /** The boundary cases of the promises that hold bytes: 1 to 9, 15 and 21, and section 1 of the terms. */
 public final class TextBoundaries extends Samples {
-    private static final int MIN = Integer.MIN_VALUE;
-    private static final int MAX = Integer.MAX_VALUE;
-
     public static void main(String[] args) {
         newObject();
         callsOfAnObject();
