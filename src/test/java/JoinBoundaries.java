@@ -133,5 +133,11 @@ public final class JoinBoundaries extends Samples {
             due("a CLASH, again and again", x.join(3, 1, 2), 1);
             due("a CLASH, again and again", x.outOf(), "<<<<<<<\na\n=======\nb\n>>>>>>>\n");
         }
+        x.join(0, 0, 0);
+        due("o's ALIKE a's, behind 200 ANCHORS", x.join(3, 3, 2), 0);
+        due("o's ALIKE a's, behind 200 ANCHORS", x.outOf(), "b\n");
+        x.join(0, 0, 0);
+        due("o's ALIKE b's, behind 200 ANCHORS", x.join(3, 1, 3), 0);
+        due("o's ALIKE b's, behind 200 ANCHORS", x.outOf(), "a\n");
     }
 }
